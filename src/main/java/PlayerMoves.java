@@ -1766,7 +1766,7 @@ public final class PlayerMoves {
         int ran;
 
         /** An ACT with the body of this KIND, or of the next KIND above that has one. */
-        int perform(Body by, int kind, int act, int x, int depth) {
+        private int perform(Body by, int kind, int act, int x, int depth) {
             int owner = kind;
             while (owner > BODY && OWN_BODY[4 * owner + act] == 0) {
                 owner = ABOVE[owner];

@@ -108,6 +108,7 @@ public final class ActsShelvesTest {
         for (int sort = 0; sort < 5; sort++) {
             Due.is("row(1, sort, 60)", x.row(1, sort, 60), 1);
             Due.is("0 at first", x.element(1, 59), 0);
+            Due.is("0 at first", x.element(1, 0), 0);
             for (int i = 0; i < put.length; i++) {
                 Due.is("put(1, i, v)", x.put(1, 59 - i, put[i]), 1);
                 long v = put[i];
@@ -119,6 +120,7 @@ public final class ActsShelvesTest {
             Due.is("0 put", x.element(1, 0), 0);
             Due.is("put(1, 60, 1)", x.put(1, 60, 1), -13);
             Due.is("put(1, -1, 1)", x.put(1, -1, 1), -13);
+            x.put(1, 0, 1);
             Due.is("element(1, 60)", x.element(1, 60), LACKS);
             Due.is("element(1, -1)", x.element(1, -1), LACKS);
         }

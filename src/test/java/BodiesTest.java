@@ -139,6 +139,8 @@ public final class BodiesTest {
         Due.is("a bad 151st club", x.club(5, 4, 0), -1);
         Due.is("a 151st player", x.player(2, 0, 0, -1), -3);
         Due.is("a bad 151st player", x.player(2, 1, 0, -1), -1);
+        Due.is("ofBody(150, 0)", x.ofBody(150, 0), VOID);
+        Due.is("ofBody(151, 0)", x.ofBody(151, 0), VOID);
         Due.is("count(0)", x.count(0), 150);
         Due.is("count(1)", x.count(1), 0);
         Due.is("count(2)", x.count(2), 0);

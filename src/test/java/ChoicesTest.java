@@ -81,6 +81,9 @@ public final class ChoicesTest {
         x.deal(3, 1, 1, 3);
         x.deal(3, 1, 2, -1);
         Due.is("a DEAL that is not told", x.chain(), 2);
+        x.deal(3, 1, 60, -1);
+        x.deal(4, 0, 1, 0);
+        Due.is("the other one is the first", x.chain(), 0);
         x.deal(3, 1, 0, -1);
         x.deal(4, 0, 0, -1);
         x.days(11);
@@ -236,6 +239,10 @@ public final class ChoicesTest {
         Due.is("candidates are none by NOT, too", x.buys(100, 1, 0), -1);
         Due.is("HOME GROWN ones", buy(x, 100, 11, 0, 0, 9, 10, 1, 10, 2), 4);
         Due.is("nine HOME GROWN ones", buy(x, 100, 109, 0, 10, 1), -2);
+        Due.is("a HOME GROWN one with a price", buy(x, 100, 101, 0, 5010, 1), 1);
+        Due.is("two HOME GROWN ones with prices", buy(x, 200, 102, 0, 5010, 1, 10010, 1, 9000, 5), 3);
+        Due.is("none HOME GROWN with a price", buy(x, 100, 101, 0, 9903, 1), -2);
+        Due.is("an empty purse", buy(x, 0, 100, 0, 100, 9, 0, 1), 2);
         Due.is("place 0", buy(x, 100, 10, 1000, 0, 1, 1, 9, 2, 9, 3, 9), 1);
         Due.is("place 1", buy(x, 100, 10, 100, 0, 9, 1, 1, 2, 9, 3, 9), 2);
         Due.is("place 2", buy(x, 100, 10, 10, 0, 9, 1, 9, 2, 1, 3, 9), 4);

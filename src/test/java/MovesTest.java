@@ -10,6 +10,7 @@ public final class MovesTest {
         paidOfASale();
         keptOfTheNextSale();
         shares();
+        sharesOfTheEdges();
         spread();
         loans();
         options();
@@ -260,6 +261,28 @@ public final class MovesTest {
         Due.is("SHARES of an UNDONE one", x.ofMove(2, 8), 1);
     }
 
+    /** SHARES to the first and to the last of all BODIES. */
+    private static void sharesOfTheEdges() {
+        PlayerMoves x = made();
+        x.player(2, -6000, 1, -1);
+        x.club(5, 0, 1000);
+        x.past(6, 0, -2400, -2301);
+        x.sign(6, 1, 2999, 1);
+        x.term(0, 40);
+        Due.is("sell(6, 2)", x.sell(6, 2), 0);
+        Due.is("share(0, 0)", x.share(0, 0), 2);
+        coins("sold", x, 1002, 1038, 960);
+        x.undo(0);
+        coins("undone", x, 1000, 1000, 1000);
+        x.past(6, 7, -2400, -2301);
+        x.sell(6, 2);
+        Due.is("share(1, 7)", x.share(1, 7), 2);
+        Due.is("COINS of 7", x.ofBody(7, 2), 1002);
+        x.undo(1);
+        Due.is("COINS of 7", x.ofBody(7, 2), 1000);
+        coins("undone", x, 1000, 1000, 1000);
+    }
+
     private static void spread() {
         PlayerMoves x = made();
         x.term(0, 11);
@@ -448,6 +471,11 @@ public final class MovesTest {
         Due.is("the later one counts from itself on", y.ofMove(2, 10), 0);
         y.play(5, 1);
         Due.is("the later one is enough", y.ofMove(2, 10), 5);
+        PlayerMoves z = made();
+        z.term(5, 1);
+        z.sell(5, 1);
+        z.play(5, 1);
+        Due.is("a BONUS of 1", z.ofMove(0, 10), 1);
     }
 
     private static void plays() {
@@ -518,5 +546,8 @@ public final class MovesTest {
         Due.is("count(4)", x.count(4), 200);
         x.undo(199);
         Due.is("UNDONE ones keep their numbers", x.sell(5, 0), -3);
+        Due.is("ofMove(200, 0)", x.ofMove(200, 0), VOID);
+        Due.is("undo(200)", x.undo(200), -1);
+        Due.is("share(200, 0)", x.share(200, 0), -1);
     }
 }

@@ -2,6 +2,7 @@
 public final class RulesTest {
     public static void main(String[] args) {
         squad();
+        firstBody();
         feed();
         faults();
         depths();
@@ -59,6 +60,19 @@ public final class RulesTest {
             Due.is("THREE YEARS' INCOME in " + year, x.squad(0, 6), (1 << year + 1) - (1 << from));
             Due.is("THREE YEARS' CAPS in " + year, x.squad(0, 5), 18 * (year - from + 1));
         }
+    }
+
+    /** The one with number 0 counts as any. */
+    private static void firstBody() {
+        PlayerMoves x = new PlayerMoves();
+        x.player(4, -3600, 0, -1);
+        x.club(5, 0, 0);
+        Due.is("count(2)", x.count(2), 1);
+        Due.is("count(9)", x.count(9), 1);
+        x.sign(0, 1, 5, 77);
+        Due.is("squad(1, 0)", x.squad(1, 0), 1);
+        Due.is("squad(1, 2)", x.squad(1, 2), 1);
+        Due.is("squad(1, 3)", x.squad(1, 3), 77);
     }
 
     private static void feed() {
@@ -269,6 +283,9 @@ public final class RulesTest {
         String least = "(65536*32768)";
         Due.rule(x, 1, 0, least + "/(0-1)=" + least + "&" + least + "%(0-1)=0&" + least + "<0&" + least + "-1>0");
         Due.is("Ints wrap", x.holds(1, 0, -1), -2);
+        Due.is("FAULT of a ninth", Due.rule(x, 1, 0, "![!![!!!(1)=2]]"), -108);
+        Due.is("the deepest", Due.rule(x, 1, 0, "![!![!!(1)=2]];!!!!!!!!1=1&[[[[[[[[1=1]]]]]]]]&((((((((1))))))))=1;1=2"), 1);
+        Due.is("the deepest hold", x.holds(1, 0, -1), 2);
     }
 
     private static void holds() {
@@ -324,5 +341,7 @@ public final class RulesTest {
         Due.is("tryCap(0, -1)", x.tryCap(0, -1), -1);
         Due.is("tryCap(0, 4)", x.tryCap(0, 4), -1);
         Due.is("nothing is in force by it", x.holds(2, 0, -1), -2);
+        Due.rule(x, 22, 0, "m>5");
+        Due.is("tryCap(2, 1)", x.tryCap(2, 1), 1);
     }
 }
