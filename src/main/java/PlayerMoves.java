@@ -6,6 +6,8 @@ public final class PlayerMoves {
     public static final int BAD = -1, NOT = -2, FULL = -3, VOID = -2000000000;
 
     private static final int NOTHING_THERE = -11, OTHER_KIND = -12, NO_PLACE = -13, SIZE_BELOW_ZERO = -14;
+    /** What element() answers for each refusal: the least long. */
+    private static final long NO_ELEMENT = 1L << 63;
     private static final int FIRST_DAY = -9999, LAST_DAY = 2999, LAST_MINUTE = 1439, DAYS_A_YEAR = 300, YEARS = 10;
     private static final int MOST_BODIES = 150, MOST_SPANS = 600, MOST_MOVES = 200, MOST_RULES = 16, MOST_BYTES = 160;
     private static final int MOST_COINS = 9999999, MOST_FEE = 999999, MOST_WAGE = 99999, MOST_WORTH = 99999;
@@ -17,7 +19,7 @@ public final class PlayerMoves {
     /** What a SPAN is by. */
     private static final int PAST_SPAN = 0, OWN_SPAN = 1, LOAN_SPAN = 2;
     /** The DAY of UNDOING of what is not UNDONE. */
-    private static final int NEVER = Integer.MAX_VALUE;
+    private static final int NEVER = 1000000;
     private static final int FIRST_TAUGHT_AGE = 12, LAST_TAUGHT_AGE = 22, HOME_GROWN_DAYS = 900;
 
     /** The terms of a SALE or LOAN told next, by their numbers. */
@@ -270,26 +272,33 @@ public final class PlayerMoves {
         if (who == null || buyer == null || !within(loan, 0, 1)) {
             return BAD;
         }
-        if (who.owning(today) == null) {
-            return NOT;
-        }
         return whyNot(who, buyer, terms[FEE], loan == 0 ? SALE : LOAN);
     }
 
     public int sell(int player, int club) {
-        int refused = refusal(player, club, SALE);
-        if (refused != 0) {
-            return refused;
+        Body who = playerAt(player);
+        Body buyer = clubAt(club);
+        if (who == null || buyer == null || terms[TILL] < today) {
+            return BAD;
         }
-        return makeSale(bodies[player], bodies[club], terms[FEE], SALE);
+        int why = whyNot(who, buyer, terms[FEE], SALE);
+        if (why != 0) {
+            return refusal(why);
+        }
+        return movesOrSpansAreFull() ? FULL : makeSale(who, buyer, terms[FEE], SALE);
     }
 
     public int lend(int player, int club) {
-        int refused = refusal(player, club, LOAN);
-        if (refused != 0) {
-            return refused;
+        Body who = playerAt(player);
+        Body buyer = clubAt(club);
+        if (who == null || buyer == null || terms[LOAN_TILL] < today) {
+            return BAD;
         }
-        return makeLoan(bodies[player], bodies[club]);
+        int why = whyNot(who, buyer, terms[FEE], LOAN);
+        if (why != 0) {
+            return refusal(why);
+        }
+        return movesOrSpansAreFull() ? FULL : makeLoan(who, buyer);
     }
 
     public int option(int move) {
@@ -306,12 +315,9 @@ public final class PlayerMoves {
         }
         int why = whyNot(loan.player, loan.buyer, loan.option, BY_OPTION);
         if (why != 0) {
-            return -20 - why;
+            return refusal(why);
         }
-        if (movesOrSpansAreFull()) {
-            return FULL;
-        }
-        return makeSale(loan.player, loan.buyer, loan.option, BY_OPTION);
+        return movesOrSpansAreFull() ? FULL : makeSale(loan.player, loan.buyer, loan.option, BY_OPTION);
     }
 
     public int ofMove(int move, int what) {
@@ -570,7 +576,7 @@ public final class PlayerMoves {
     }
 
     public long element(int shelf, int i) {
-        return elementRefusal(shelf, i) == 0 ? shelves[shelf].elements[i] : Long.MIN_VALUE;
+        return elementRefusal(shelf, i) == 0 ? shelves[shelf].elements[i] : NO_ELEMENT;
     }
 
     public int shift(int shelf, int i, int other, int j, int n) {
@@ -775,33 +781,25 @@ public final class PlayerMoves {
 
     // ---- why a move may not be
 
-    /** What sell() or lend() answers in place of doing it; 0: it is to be done. */
-    private int refusal(int player, int club, int how) {
-        Body who = playerAt(player);
-        Body buyer = clubAt(club);
-        if (who == null || buyer == null || terms[how == LOAN ? LOAN_TILL : TILL] < today) {
-            return BAD;
-        }
-        if (who.owning(today) == null) {
-            return NOT;
-        }
-        int why = whyNot(who, buyer, terms[FEE], how);
-        if (why != 0) {
-            return -20 - why;
-        }
-        return movesOrSpansAreFull() ? FULL : 0;
+    /** What a MOVE that may not be answers. */
+    private static int refusal(int why) {
+        return why < 0 ? why : -20 - why;
     }
 
     private boolean movesOrSpansAreFull() {
         return moveCount >= MOST_MOVES || spanCount >= MOST_SPANS;
     }
 
-    /** WHY a MOVE may not be; of one by OPTION the reasons 2 to 5 alone. */
+    /** WHY a MOVE may not be, of one by OPTION the reasons 2 to 5 alone; NOT: he is FREE; 0: it may. */
     private int whyNot(Body who, Body buyer, int fee, int how) {
-        League of = leagues[buyer.league];
-        if (how != BY_OPTION && isOwnedOrLent(who, buyer, how)) {
+        Span owned = who.owning(today);
+        if (owned == null) {
+            return NOT;
+        }
+        if (how != BY_OPTION && (owned.club == buyer || isLentElsewhere(who, buyer, how))) {
             return 1;
         }
+        League of = leagues[buyer.league];
         if (!of.isOpen(today)) {
             return 2;
         }
@@ -817,11 +815,10 @@ public final class PlayerMoves {
         return how != BY_OPTION && brokenLine(ruleToday(SQUAD, buyer), buyer, null, who) >= 0 ? 6 : 0;
     }
 
-    private boolean isOwnedOrLent(Body who, Body buyer, int how) {
-        Span owned = who.owning(today);
+    /** Whether the SPAN that counts TODAY is a LOAN that is in the way. */
+    private boolean isLentElsewhere(Body who, Body buyer, int how) {
         Span held = who.holding(today);
-        boolean isLent = held != null && held.sort == LOAN_SPAN && (how == LOAN || held.club != buyer);
-        return isLent || (owned != null && owned.club == buyer);
+        return held != null && held.sort == LOAN_SPAN && (how == LOAN || held.club != buyer);
     }
 
     // ---- moves that are done and undone
@@ -1187,14 +1184,14 @@ public final class PlayerMoves {
         int nextChange(int day) {
             int next = NEVER;
             for (Span s = firstSpan; s != null; s = s.next) {
-                if (s.from > day) {
-                    next = Math.min(next, s.from);
+                if (s.from > day && s.from < next) {
+                    next = s.from;
                 }
-                if (s.to >= day) {
-                    next = Math.min(next, s.to + 1);
+                if (s.to >= day && s.to + 1 < next) {
+                    next = s.to + 1;
                 }
-                if (s.undoneOn > day) {
-                    next = Math.min(next, s.undoneOn);
+                if (s.undoneOn > day && s.undoneOn < next) {
+                    next = s.undoneOn;
                 }
             }
             return next;
@@ -1385,7 +1382,7 @@ public final class PlayerMoves {
         }
 
         private void pass(int sign) {
-            if (fault < 0 && peek() == sign) {
+            if (fault < 0 && at < length && text[at] == sign) {
                 at++;
             } else {
                 fail();
@@ -1415,32 +1412,28 @@ public final class PlayerMoves {
         /** B. */
         private boolean base(int open) {
             int sign = peek();
-            if (sign != '!' && sign != '[') {
-                return relation(open);
+            if (sign == '!' || sign == '[') {
+                if (open >= MOST_OPEN) {
+                    fail();
+                    return false;
+                }
+                at++;
+                if (sign == '!') {
+                    return !base(open + 1);
+                }
+                boolean holds = anyOf(open + 1);
+                pass(']');
+                return holds;
             }
-            if (open >= MOST_OPEN) {
-                fail();
-                return false;
-            }
-            at++;
-            if (sign == '!') {
-                return !base(open + 1);
-            }
-            boolean holds = anyOf(open + 1);
-            pass(']');
-            return holds;
-        }
-
-        private boolean relation(int open) {
             int left = sum(open);
-            int sign = peek();
-            if (fault >= 0 || (sign != '<' && sign != '=' && sign != '>')) {
+            int relation = peek();
+            if (fault >= 0 || (relation != '<' && relation != '=' && relation != '>')) {
                 fail();
                 return false;
             }
             at++;
             int right = sum(open);
-            return sign == '<' ? left < right : sign == '>' ? left > right : left == right;
+            return relation == '<' ? left < right : relation == '>' ? left > right : left == right;
         }
 
         /** S. */
