@@ -41,7 +41,7 @@ final class Due {
 
     /** Days go by up to a DAY. */
     static void until(PlayerMoves x, int day) {
-        while (x.count(6) < day) {
+        for (int i = 0; i < 10 && x.count(6) < day; i++) {
             x.days(Math.min(300, day - x.count(6)));
         }
     }

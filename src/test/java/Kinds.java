@@ -57,6 +57,10 @@ final class Kinds {
             this.more = more;
         }
 
+        int act(int act, int x) {
+            return act == 0 ? plays(x) : act == 1 ? pays(x) : act == 2 ? signs(x) : tells(x);
+        }
+
         @Override
         public int number() {
             return n;
