@@ -91,6 +91,13 @@ final class EdgesActs {
             Edge.is("nothing", x.element(shelf, 0), LACKS);
             Edge.is("a ROW again", x.row(shelf, 1, 3), 1);
             Edge.is("its elements are 0", x.element(shelf, 0), 0);
+            x.keep(shelf, 5);
+            Edge.is("a ROW in a BODY's place", x.row(shelf, 1, 3), 1);
+            Edge.is("no BODY", x.taken(shelf, 3), -12);
+            Edge.is("no BODY", x.taken(shelf, 0), -12);
+            x.keep(shelf, 5);
+            x.keep(shelf, -1);
+            Edge.is("no BODY", x.taken(shelf, 3), -11);
         }
     }
 
@@ -218,6 +225,22 @@ final class EdgesActs {
             Edge.no("of unlike sorts, " + w[0] + " to " + w[1], x -> x.shift(w[0], 0, w[1], 0, 1), -12);
             Edge.no("0 of unlike sorts, " + w[0] + " to " + w[1], x -> x.shift(w[0], 0, w[1], 0, 0), -12);
             Edge.no("of unlike sorts at places that are not there, " + w[0] + " to " + w[1], x -> x.shift(w[0], 61, w[1], -1, -1), -12);
+        }
+        for (int sort = 0; sort < 5; sort++) {
+            PlayerMoves x = Worlds.busy();
+            x.row(0, sort, 3);
+            x.row(3, sort, 3);
+            x.keep(3, 5);
+            x.row(4, sort, 3);
+            x.keep(4, -1);
+            Edge.is("to a BODY in the place of a ROW of sort " + sort, x.shift(0, 0, 3, 0, 1), -12);
+            Edge.is("from a BODY in the place of a ROW of sort " + sort, x.shift(3, 0, 0, 0, 1), -12);
+            Edge.is("from a BODY to a ROW of sort " + sort, x.shift(2, 0, 0, 0, 1), -12);
+            Edge.is("to nothing in the place of a ROW of sort " + sort, x.shift(0, 0, 4, 0, 1), -11);
+            Edge.is("from nothing in the place of a ROW of sort " + sort, x.shift(4, 0, 0, 0, 1), -11);
+            Edge.is("spans of a BODY in the place of a ROW of sort " + sort, x.spans(4, 3, 0, 1), -12);
+            Edge.is("spans of nothing in the place of a ROW of sort " + sort, x.spans(4, 4, 0, 1), 0);
+            Edge.is("element of a BODY in the place of a ROW of sort " + sort, x.element(3, 0), LACKS);
         }
         for (int from = 0; from < 5; from++) {
             for (int to = 0; to < 5; to++) {

@@ -14,6 +14,7 @@ final class EdgesBodies {
         p11OfBody();
         p11OfAPlayer();
         t1Bodies();
+        t1FirstAndLastBody();
         t1Figures();
         t1Age();
     }
@@ -163,6 +164,37 @@ final class EdgesBodies {
         Edge.is("the last PLAYER comes to the last CLUB", x.sign(148, 149, 0, 9), 1);
         Edge.is("OWNER", x.ofBody(148, 5), 149);
         Edge.is("WAGES", x.squad(149, 3), 9);
+    }
+
+    /** The first of all BODIES is a PLAYER, the last one a CLUB that TAUGHT him. */
+    private static void t1FirstAndLastBody() {
+        Edge.t(1, "BODIES 0 .. 149, as they come");
+        PlayerMoves x = Worlds.fresh();
+        Edge.is("the first one, a YOUTH", x.player(4, -4600, 7, -1), 0);
+        Edge.is("the second one, a CLUB", x.club(5, 3, 1000), 1);
+        Edge.is("the third one, a CLUB", x.club(5, 3, 1000), 2);
+        for (int i = 3; i < 149; i++) {
+            x.body(1);
+        }
+        Edge.is("the last one, a SCHOOL", x.club(7, 3, 1000), 149);
+        Edge.is("CLUBS", x.count(1), 3);
+        Edge.is("PLAYERS", x.count(2), 1);
+        Edge.is("FREE PLAYERS", x.count(9), 1);
+        Edge.is("past(0, 149, -999, -1)", x.past(0, 149, -999, -1), 1);
+        Edge.is("sign(0, 1, 2999, 5)", x.sign(0, 1, 2999, 5), 1);
+        Edge.is("FREE PLAYERS", x.count(9), 0);
+        int[] due = {1, 1, 1, 5, 5, 5, 0};
+        for (int what = 0; what < 7; what++) {
+            Edge.is("squad(1, " + what + ")", x.squad(1, what), due[what]);
+        }
+        x.window(3, 0, 2999);
+        Worlds.terms(x, 100, 2999, 5);
+        Edge.is("sell(0, 2)", x.sell(0, 2), 0);
+        Edge.is("SHARE of the last one", x.share(0, 149), 5);
+        Edge.is("COINS of the last one", x.ofBody(149, 2), 1005);
+        Edge.is("undo(0)", x.undo(0), 1);
+        Edge.is("COINS of the last one again", x.ofBody(149, 2), 1000);
+        Edge.is("play(0, 60)", x.play(0, 60), 60);
     }
 
     private static void t1Figures() {

@@ -380,6 +380,12 @@ final class EdgesPaid {
         x.term(6, 1);
         x.play(5, 60);
         Edge.is("the terms of its own SALE; more than enough", x.ofMove(0, 10), 9);
+        PlayerMoves z = Worlds.market();
+        Worlds.terms(z, 0, 2999, 0, 1, 0, 1, 1);
+        z.sell(5, 1);
+        z.play(5, 1);
+        Edge.is("BONUS 1", z.ofMove(0, 10), 1);
+        coins("BONUS 1", z, 1001, 999, 1000);
         PlayerMoves y = Worlds.market();
         Worlds.terms(y, 0, 2999, 0, 1, 0, 0, 1);
         y.sell(5, 1);
@@ -412,6 +418,13 @@ final class EdgesPaid {
         x.lend(5, 1);
         x.play(5, 60);
         coins("for the first buyer, PAID already", x, 1007, 1000, 993);
+        PlayerMoves y = Worlds.market();
+        Worlds.terms(y, 0, 2999, 0, 1, 0, 7, 5);
+        y.sell(5, 1);
+        y.sell(4, 1);
+        Edge.is("five of another PLAYER of the buyer", y.play(4, 5), 5);
+        Edge.is("his own SALE's BONUS", y.ofMove(1, 10), 7);
+        Edge.is("not the other's", y.ofMove(0, 10), 0);
     }
 
     private static void t3Option() {

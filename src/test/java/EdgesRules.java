@@ -239,6 +239,15 @@ final class EdgesRules {
         Edge.is("SCHOOLS too", x.tryCap(7, 0), 1);
         Edge.is("that in force stays", x.holds(2, 0, -1), NOT);
         Edge.is("that in force stays", x.inForce(2, 10, 10), 6);
+        PlayerMoves y = Worlds.fresh();
+        y.club(5, 3, 9);
+        for (int i = 0; i < 16; i++) {
+            Due.rule(y, 32, 0, i == 0 || i == 15 ? "m<9" : "m=9");
+        }
+        Edge.is("the first RULE", y.tryCap(0, 3), 1);
+        Edge.is("the second RULE", y.tryCap(1, 3), 0);
+        Edge.is("the last RULE", y.tryCap(15, 3), 1);
+        Edge.is("one behind the last RULE", y.tryCap(16, 3), BAD);
     }
 
     private static void t4HomeGrown() {
@@ -264,6 +273,14 @@ final class EdgesRules {
             Edge.is("the lender's HOME GROWN ones", x.squad(0, 1), 0);
             x.days(1);
             Edge.is("back: the lender's HOME GROWN ones", x.squad(0, 1), n >= 900 ? 1 : 0);
+        }
+        for (int league = 0; league < 4; league++) {
+            PlayerMoves x = Worlds.fresh();
+            x.club(5, league, 0);
+            x.player(2, -8000, 0, -1);
+            x.past(1, 0, -4400, -3501);
+            x.past(1, 0, 0, 0);
+            Edge.is("of LEAGUE " + league, x.squad(0, 1), 1);
         }
         Edge.t(4, "SQUAD of a CLUB: PLAYERS whom it HOLDS TODAY.");
         PlayerMoves x = Worlds.busy();

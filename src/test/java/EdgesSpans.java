@@ -27,6 +27,7 @@ final class EdgesSpans {
         t2Holder();
         t2Contract();
         t2Taught();
+        t2TaughtByStretches();
     }
 
     private static void p12Past() {
@@ -469,5 +470,45 @@ final class EdgesSpans {
         y.player(2, -9000, 0, -1);
         y.past(1, 0, -9999, 0);
         Edge.is("born first", y.taught(1, 0), 3300);
+    }
+
+    private static void t2TaughtByStretches() {
+        Edge.t(2, "TAUGHT: days REGISTERED (HOLDER) at ages 12 to 22 (AGE on that DAY), by CLUBS.");
+        PlayerMoves x = Worlds.fresh();
+        x.club(5, 0, 100);
+        x.club(5, 3, 100);
+        x.player(2, -5000, 0, -1);
+        x.past(2, 0, -1000, -991);
+        x.past(2, 1, -989, -989);
+        Edge.is("no SPAN on the day between", x.taught(2, 0), 10);
+        Edge.is("a SPAN of a day", x.taught(2, 1), 1);
+        x.past(2, 1, -995, -990);
+        Edge.is("told last, from a day within on", x.taught(2, 0), 5);
+        Edge.is("told last, up to the next", x.taught(2, 1), 7);
+        PlayerMoves y = Worlds.fresh();
+        y.club(5, 0, 100);
+        y.club(5, 3, 100);
+        y.player(2, -5000, 0, -1);
+        y.past(2, 1, -989, -989);
+        y.past(2, 0, -1000, -991);
+        Edge.is("no SPAN on the day between, told the other way round", y.taught(2, 0), 10);
+        Edge.is("a SPAN of a day, told the other way round", y.taught(2, 1), 1);
+        x.past(2, 0, -993, -993);
+        Edge.is("a day within that one", x.taught(2, 0), 6);
+        Edge.is("the days around it", x.taught(2, 1), 6);
+        x.sign(2, 0, 2999, 0);
+        x.window(3, 0, 2999);
+        x.term(7, 50);
+        x.days(10);
+        x.lend(2, 1);
+        x.days(10);
+        Edge.is("by the borrower TODAY, too", x.taught(2, 1), 6 + 11);
+        Edge.is("by the OWNER ahead of the LOAN", x.taught(2, 0), 6 + 10);
+        x.undo(0);
+        Edge.is("UNDONE: TODAY no more", x.taught(2, 1), 6 + 10);
+        Edge.is("UNDONE: TODAY is the OWNER's", x.taught(2, 0), 6 + 11);
+        x.days(100);
+        Edge.is("the borrower's days stay", x.taught(2, 1), 6 + 10);
+        Edge.is("the OWNER's go on", x.taught(2, 0), 6 + 111);
     }
 }

@@ -149,6 +149,10 @@ final class EdgesTexts {
         fault("[a=a]&" + nots, -1);
         fault("(a)=a&" + nots, -1);
         fault("!a=a&" + nots, -1);
+        says("[".repeat(8) + "1=1" + "]".repeat(8) + ";" + "[".repeat(8) + "1=2" + "]".repeat(8), 1);
+        says("!".repeat(8) + "1=1;" + "!".repeat(7) + "1=1", 1);
+        says("(".repeat(8) + "2" + ")".repeat(8) + "=2;2=" + "(".repeat(8) + "3" + ")".repeat(8), 1);
+        says("[![![![!1=1]]]];![![!!((2))=3]]", 1);
     }
 
     private static void t5Longest() {
