@@ -77,6 +77,21 @@ final class EdgesTexts {
             fault(whole.substring(0, n), stands ? -1 : n);
         }
         fault(whole, -1);
+        for (int n = 0; n < whole.length(); n++) {
+            PlayerMoves x = Worlds.fresh();
+            Edge.is("one that stays behind on THE TAPE", Due.rule(x, 0, 0, whole + ";?"), -100 - whole.length() - 1);
+            boolean stands = whole.charAt(n) == ';' || whole.charAt(n) == '&';
+            Edge.is("what came ahead on THE TAPE does not go on: " + whole.substring(0, n), Due.rule(x, 0, 0, whole.substring(0, n)), stands ? 0 : -100 - n);
+        }
+        String[] ends = {"[a=a+1", "(a+1", "a=(1+1", "!a+1", "a=a;a+1", "[a=a&a+1", "a=1+1;", "a=1+1&", "a=1+1|", "a=1+1+", "a=1+1*", "a=1+1=", "a=1+1<", "a=1+1!"};
+        for (String end : ends) {
+            StringBuilder text = new StringBuilder(end);
+            while (text.length() < 160) {
+                text.insert(end.indexOf('1'), text.length() == 159 ? "1" : "1*");
+            }
+            char last = end.charAt(end.length() - 1);
+            fault(text.toString(), last == '=' || last == '<' || last == '!' ? 159 : 160);
+        }
     }
 
     private static void t5GoesOn() {
