@@ -3,14 +3,13 @@ import java.util.Random;
 /** Promises 28 and 30 by drawn texts: FAULTS as a reader with a stack of its own finds them, values as the drawn trees have them. */
 public final class TextsTest {
     private static final String SIGNS = "akm019!!(([[)))]]]<>=<>=+-*/%&|;";
-    private static final String NAMES = "akhnywctildm";
 
     public static void main(String[] args) {
         Random random = new Random(77);
         for (int i = 0; i < 40000; i++) {
             String text = i % 2 == 0 ? drawnByStates(random) : mutated(random, texts(random));
             if (text.length() <= 160) {
-                int fault = fault(text);
+                int fault = Texts.fault(text);
                 Due.is("FAULT of " + text, Due.rule(new PlayerMoves(), 0, 0, text), fault < 0 ? 0 : -100 - fault);
             }
         }
@@ -29,7 +28,7 @@ public final class TextsTest {
             for (int tries = 0; tries < 200; tries++) {
                 text.setLength(before);
                 text.append(SIGNS.charAt(random.nextInt(SIGNS.length())));
-                int fault = fault(text.toString());
+                int fault = Texts.fault(text.toString());
                 if (i == wrong || fault < 0 || fault == text.length()) {
                     break;
                 }
@@ -50,70 +49,6 @@ public final class TextsTest {
             changed.insert(at, SIGNS.charAt(random.nextInt(SIGNS.length())));
         }
         return changed.toString();
-    }
-
-    /** The FAULT, read sign by sign with a stack of what is open; -1: none. */
-    private static int fault(String text) {
-        StringBuilder open = new StringBuilder();
-        char state = 'B';
-        boolean related = false;
-        int digits = 0;
-        for (int i = 0; i < text.length(); i++) {
-            char c = text.charAt(i);
-            boolean isDigit = c >= '0' && c <= '9';
-            char top = topOf(open);
-            boolean whole = state == 'E' || (state == 'A' && related && open.indexOf("(", bracketOf(open)) < 0);
-            if (state == 'B' && (c == '!' || c == '[') && open.length() < 8) {
-                open.append(c);
-            } else if ((state == 'B' || state == 'O') && c == '(' && open.length() < 8) {
-                open.append(c);
-                related = state == 'O' && related;
-                state = 'O';
-            } else if ((state == 'B' || state == 'O') && (isDigit || NAMES.indexOf(c) >= 0)) {
-                related = state == 'O' && related;
-                state = 'A';
-                digits = isDigit ? 1 : 7;
-            } else if (state == 'A' && isDigit && digits < 7) {
-                digits++;
-            } else if (state == 'A' && "+-*/%".indexOf(c) >= 0) {
-                state = 'O';
-            } else if (state == 'A' && c == ')' && open.length() > 0 && open.charAt(open.length() - 1) == '(') {
-                open.setLength(open.length() - 1);
-                digits = 7;
-            } else if (state == 'A' && "<>=".indexOf(c) >= 0 && !related && !open.toString().endsWith("(")) {
-                related = true;
-                state = 'O';
-            } else if (whole && (c == '&' || c == '|' || (c == ';' && top == 0) || (c == ']' && top == '['))) {
-                dropNots(open);
-                if (c == ']') {
-                    open.setLength(open.length() - 1);
-                }
-                state = c == ']' ? 'E' : 'B';
-                related = false;
-            } else {
-                return i;
-            }
-        }
-        boolean whole = state == 'E' || (state == 'A' && related && !open.toString().endsWith("("));
-        return whole && topOf(open) == 0 ? -1 : text.length();
-    }
-
-    private static int bracketOf(StringBuilder open) {
-        return open.lastIndexOf("[") + 1;
-    }
-
-    private static char topOf(StringBuilder open) {
-        int i = open.length() - 1;
-        while (i >= 0 && open.charAt(i) == '!') {
-            i--;
-        }
-        return i < 0 ? 0 : open.charAt(i);
-    }
-
-    private static void dropNots(StringBuilder open) {
-        while (open.length() > 0 && open.charAt(open.length() - 1) == '!') {
-            open.setLength(open.length() - 1);
-        }
     }
 
     // ---- drawn trees with their values
